@@ -1,0 +1,273 @@
+/** Promises 15 to 18: the tape, texts and their faults, rules, what a text says. */
+public final class TextsTest {
+    private static final int MIN = Integer.MIN_VALUE, MAX = Integer.MAX_VALUE;
+
+    public static void main(String[] args) {
+        feeding();
+        fullTape();
+        numbering();
+        faults();
+        depth();
+        ruling();
+        values();
+        facts();
+        saying();
+        Check.end();
+    }
+
+    private static void feeding() {
+        TwoHeads x = new TwoHeads();
+        Check.due("n 0", x.feed(0, 0), -2);
+        Check.due("n 9", x.feed(9, 0), -2);
+        Check.due("n below 0", x.feed(-1, 0), -2);
+        Check.due("n far off", x.feed(MAX, 0), -2);
+        Check.due("n far off", x.feed(MIN, 0), -2);
+        Check.due("nothing came", x.count(7), 0);
+        // The bytes above the n lowest are left out: the b of binds alone comes.
+        Check.due("one byte", x.feed(1, 0x7F7F7F7F7F7F7F62L), 1);
+        Check.due("lowest first", x.feed(4, 0x73646E69L), 5);
+        Check.due("and behind it", x.feed(3, 0x3B3120L), 8);
+        Check.feed(x, "saved 0;");
+        Check.due("count", x.count(7), 16);
+        Check.due("a text", x.text(), 1);
+        Check.due("empty then", x.count(7), 0);
+    }
+
+    private static void fullTape() {
+        TwoHeads x = new TwoHeads();
+        for (int i = 1; i <= 19; i++) Check.due("blanks", x.feed(8, 0x2020202020202020L), 8 * i);
+        Check.due("one short of full", x.feed(7, 0x20202020202020L), 159);
+        Check.due("two have no room", x.feed(2, 0x2020L), -4);
+        Check.due("bad ahead of full", x.feed(9, 0), -2);
+        Check.due("one has", x.feed(1, 0x20L), 160);
+        Check.due("full", x.feed(1, 0x20L), -4);
+        Check.due("ends too early", x.text(), -260);
+        Check.due("empty by a fault", x.count(7), 0);
+        StringBuilder whole = new StringBuilder("binds 1");
+        while (whole.length() < 151) whole.append("+1");
+        whole.append(";saved 0;");
+        Check.due("160 bytes", whole.length(), 160);
+        Check.due("a text of 160 bytes", Check.text(x, whole.toString()), 1);
+        x.rule(0, 1);
+        x.person(0);
+        x.act(0, 0, 0, 0, 0);
+        Check.due("all of it counts", x.says(0, 0, 0), 73);
+    }
+
+    private static void numbering() {
+        TwoHeads x = new TwoHeads();
+        Check.due("nothing on the tape", x.text(), -100);
+        for (int t = 1; t < 6; t++) Check.due("text", Check.text(x, "binds " + t + ";saved 0;"), t);
+        Check.feed(x, "binds?");
+        Check.due("full ahead of a fault", x.text(), -4);
+        Check.due("the tape stays", x.count(7), 6);
+        Check.due("count", x.count(6), 6);
+    }
+
+    private static void faults() {
+        faultAt("", 0);
+        faultAt("   ", 3);
+        faultAt("binds", 5);
+        faultAt("binds  ", 7);
+        faultAt("binds ;", 6);
+        faultAt("binds 1", 7);
+        faultAt("binds 1;", 8);
+        faultAt("binds 1; saved", 14);
+        faultAt("binds 1; saved 1", 16);
+        faultAt("binds 1; saved 1 \n", 18);
+        faultAt("binds 1; saved 1; 1", 18);
+        faultAt("binds 1; saved 1;;", 17);
+        faultAt("binds 1; saved 1; binds", 18);
+        faultAt("saved 1; binds 1;", 0);
+        faultAt("binds 1; binds 1;", 9);
+        faultAt("bindssame; saved 1;", 0);
+        faultAt("binds sames; saved 1;", 6);
+        faultAt("binds sam; saved 1;", 6);
+        faultAt("Binds 1; saved 1;", 0);
+        faultAt("binds 1; saved Faith;", 15);
+        faultAt("binds 1\t; saved 1;", 7);
+        faultAt("binds 1\r; saved 1;", 7);
+        faultAt("binds 1; saved 1;" + (char) 0, 17);
+        faultAt("binds " + (char) 233 + "; saved 1;", 6);
+        faultAt("binds 1" + (char) 160 + "; saved 1;", 7);
+        faultAt("binds 12345; saved 1;", 6);
+        faultAt("binds 00001; saved 1;", 6);
+        faultAt("binds 1 12345; saved 1;", 8);
+        faultAt("binds 1 2; saved 1;", 8);
+        faultAt("binds 1 same; saved 1;", 8);
+        faultAt("binds 1 < 2 < 3; saved 1;", 12);
+        faultAt("binds 1 = 2 < 3; saved 1;", 12);
+        faultAt("binds 1 << 3; saved 1;", 9);
+        faultAt("binds 1 + not 1; saved 1;", 10);
+        faultAt("binds 1 < not 1; saved 1;", 10);
+        faultAt("binds - not 1; saved 1;", 8);
+        faultAt("binds 2 * not 1; saved 1;", 10);
+        faultAt("binds not; saved 1;", 9);
+        faultAt("binds (1; saved 1;", 8);
+        faultAt("binds 1); saved 1;", 7);
+        faultAt("binds (); saved 1;", 7);
+        faultAt("binds ((1); saved 1;", 10);
+        faultAt("binds +1; saved 1;", 6);
+        faultAt("binds *1; saved 1;", 6);
+        faultAt("binds 1 or or 1; saved 1;", 11);
+        faultAt("binds or 1; saved 1;", 6);
+        faultAt("binds 1 and; saved 1;", 11);
+        faultAt("binds 1 not 1; saved 1;", 8);
+        faultAt("binds (1)(2); saved 1;", 9);
+        faultAt("binds 1 > 2; saved 1;", 8);
+        faultAt("binds 1; saved 1; x", 18);
+        faultAt("binds saved; saved 1;", 6);
+        faultAt("binds 1, saved 1;", 7);
+        faultAt("? binds", 0);
+        faultAt("same", 0);
+    }
+
+    private static void faultAt(String text, int place) {
+        Check.due("fault of '" + text + "'", Check.text(new TwoHeads(), text), -100 - place);
+    }
+
+    private static void reads(String text) {
+        Check.due("'" + text + "'", Check.text(new TwoHeads(), text), 1);
+    }
+
+    private static void depth() {
+        reads("binds (((((1))))); saved 1;");
+        faultAt("binds ((((((1)))))); saved 1;", 11);
+        reads("binds not not not not not 1; saved 1;");
+        faultAt("binds not not not not not not 1; saved 1;", 26);
+        reads("binds -----1; saved -----1;");
+        faultAt("binds ------1; saved 1;", 11);
+        reads("binds not (-(-1)); saved 1;");
+        faultAt("binds not (-(-(1))); saved 1;", 14);
+        faultAt("binds not (-(-not 1)); saved 1;", 14);
+        faultAt("binds not not (-(-1)); saved 1;", 17);
+        faultAt("binds not not (-(1) + (2)) * ((-(3))); saved 1;", 32);
+        faultAt("binds ((((not (1))))); saved 1;", 14);
+        faultAt("binds ((((not not 1)))); saved 1;", 14);
+        faultAt("binds ((((not 1 < -1)))); saved 1;", 18);
+        faultAt("binds ((((not 1 + -1)))); saved 1;", 18);
+        reads("binds ((((not 1 - 1)))); saved 1;");
+        reads("binds ((((not 1 and -1)))); saved 1;");
+        reads("binds ((((not 1 or not 1)))); saved 1;");
+        reads("binds ((((-1 * -1 - -1)))) + (((((1))))); saved 1;");
+        faultAt("binds ((((- -1)))); saved 1;", 12);
+        reads("binds not not not not not 1 and not not not not not 1; saved 1;");
+        reads("binds (1)+(1)+(1)+(1)+(1)+(1)+(1)+(1)+(1); saved 1;");
+        reads("binds\n1\n;\n saved 9999 ;  \n");
+        reads("binds(same)and(faith)or not(day<10)and 1or 2;saved-1;");
+        reads("binds 1and 2;saved 0000;");
+    }
+
+    private static void ruling() {
+        TwoHeads x = new TwoHeads();
+        Check.due("no TEXT 1 yet", x.rule(0, 1), -2);
+        Check.text(x, "binds 1;saved 0;");
+        Check.due("rule", x.rule(2, 1), 0);
+        Check.due("rule", x.rule(2, 0), 1);
+        Check.due("rule", x.rule(2, 1), 0);
+        Check.due("rule", x.rule(1, 1), 0);
+        Check.due("told", x.count(8), 0);
+        Check.due("told", x.count(9), 1);
+        Check.due("told", x.count(10), 1);
+        for (int bad : new int[] {-1, 3, MIN, MAX}) Check.due("no such side", x.rule(bad, 0), -2);
+        for (int bad : new int[] {-1, 2, 6, MIN, MAX}) Check.due("no such text", x.rule(0, bad), -2);
+    }
+
+    private static void valueIs(String e, long value) {
+        TwoHeads x = new TwoHeads();
+        x.person(0);
+        x.act(4, 0, 7, 123, 1);
+        x.rule(1, Check.text(x, "binds " + e + "; saved 0;"));
+        Check.due(e, x.says(1, 0, 0), value);
+        TwoHeads y = new TwoHeads();
+        y.person(0);
+        y.act(4, 0, 7, 123, 1);
+        y.rule(1, Check.text(y, "binds 5; saved " + e + ";"));
+        Check.due(e, y.says(1, 0, 1), value);
+        Check.due("the other part", y.says(1, 0, 0), 5);
+    }
+
+    private static void values() {
+        valueIs("7", 7);
+        valueIs("0012", 12);
+        valueIs("9999", 9999);
+        valueIs("-9999", -9999);
+        valueIs("10 - 3 - 2", 5);
+        valueIs("2 + 3 * 4", 14);
+        valueIs("(2 + 3) * 4", 20);
+        valueIs("- 2 * 3", -6);
+        valueIs("- -2", 2);
+        valueIs("2 - -2", 4);
+        valueIs("2--2", 4);
+        valueIs("-(2+3)", -5);
+        valueIs("1 < 2", 1);
+        valueIs("2 < 2", 0);
+        valueIs("-1 < 0", 1);
+        valueIs("2 = 2", 1);
+        valueIs("2 = 3", 0);
+        valueIs("1 + 1 = 2", 1);
+        valueIs("2 < 1 + 2 * 1", 1);
+        valueIs("(1 < 2) + (2 < 3)", 2);
+        valueIs("5 or 0", 1);
+        valueIs("0 or 0", 0);
+        valueIs("0 or 0 or -7", 1);
+        valueIs("5 and 7", 1);
+        valueIs("5 and 0", 0);
+        valueIs("1 or 1 and 0", 1);
+        valueIs("(1 or 1) and 0", 0);
+        valueIs("0 and 0 or 1", 1);
+        valueIs("not 0", 1);
+        valueIs("not 7", 0);
+        valueIs("not not 7", 1);
+        valueIs("not 1 = 2", 1);
+        valueIs("not 0 and 0", 0);
+        valueIs("not 0 or 1", 1);
+        valueIs("not 1 < 0 and 5", 1);
+        valueIs("(7)", 7);
+        valueIs("9999*9999", 99980001);
+        valueIs("9999*9999*9999", (int) (9999L * 9999 * 9999));
+        valueIs("9999*9999*22", (int) (9999L * 9999 * 22));
+        valueIs("-(8192*8192*32)", MIN);
+        valueIs("8192*8192*32-1", MAX);
+        valueIs("8192*8192*32 < 0", 1);
+        valueIs("8192*8192*64", 0);
+        valueIs("1or 1and 1<1+1*(1or 1and 1<1+1*(1or 1and 1<1+1*(1or 1and 1<1+1*(1or 1and 1<1+1*(0or 0and 0<0+0*7)))))", 1);
+        valueIs("0or 1and 2<1+1*(0or 1and 2<1+1*(0or 1and 2<1+1*(0or 1and 2<1+1*(0or 1and 2<1+1*(0or 1and 2<0+3*1)))))", 0);
+    }
+
+    private static void facts() {
+        valueIs("kind", 4);
+        valueIs("day", 123);
+        valueIs("rank", 4);
+        valueIs("hangs", 0);
+        valueIs("faith", 1);
+        valueIs("same", 0);
+        valueIs("kind*1000+day", 4123);
+    }
+
+    private static void saying() {
+        TwoHeads x = new TwoHeads();
+        x.person(2);
+        x.turn(2, 50, 1);
+        x.act(0, 0, 0, 49, 0);
+        x.act(5, 0, 0, 50, 1);
+        Check.due("TEXT 0 binds same", x.says(0, 0, 0), 1);
+        Check.due("TEXT 0 binds same", x.says(1, 0, 0), 0);
+        Check.due("TEXT 0 binds same", x.says(0, 1, 0), 0);
+        Check.due("TEXT 0 binds same", x.says(1, 1, 0), 1);
+        Check.due("same under SIDE 2", x.says(2, 0, 0), 1);
+        Check.due("same under SIDE 2", x.says(2, 1, 0), 1);
+        Check.due("TEXT 0 saved faith", x.says(0, 0, 1), 0);
+        Check.due("TEXT 0 saved faith", x.says(0, 1, 1), 1);
+        x.rule(0, Check.text(x, "binds hangs; saved rank - 100;"));
+        x.hang(1, 0);
+        Check.due("hangs", x.says(0, 1, 0), 1);
+        Check.due("hangs", x.says(0, 0, 0), 0);
+        Check.due("below 0", x.says(0, 1, 1), -95);
+        for (int bad : new int[] {-1, 3, MIN, MAX}) Check.due("no such side", x.says(bad, 0, 0), TwoHeads.NO);
+        for (int bad : new int[] {-1, 2, 24, MIN, MAX}) {
+            Check.due("no such act", x.says(0, bad, 0), TwoHeads.NO);
+            Check.due("no such part", x.says(0, 0, bad), TwoHeads.NO);
+        }
+    }
+}

@@ -18,6 +18,9 @@ public final class TwoHeads {
     private static final int[] RANK_OF_KIND = {1, 3, 2, 1, 4, 5};
     private static final int[] KIND_LASTS = {9999, 9999, 1000, 300, 1000, 900};
 
+    // The parts of a TEXT.
+    private static final int BINDING = 0, SAVING = 1;
+
     // In a formula's code a number stands for itself, all else is below 0.
     private static final int NAMES = 6;
     private static final int KIND_NAME = -1, DAY_NAME = -2, RANK_NAME = -3;
@@ -158,15 +161,15 @@ public final class TwoHeads {
     }
 
     public long says(int side, int act, int part) {
-        if (!isSide(side) || !isAct(act) || !isWithin(part, 0, 1)) return NO;
+        if (!isSide(side) || !isAct(act) || !isWithin(part, BINDING, SAVING)) return NO;
         return court.valueOf(side, act, part);
     }
 
     public int acts(int side, int what) {
         if (!isSide(side) || !isWithin(what, 0, 3)) return BAD;
-        int sound = court.soundUnder(side);
+        int sound = court.trueUnder(side, BINDING);
         if (what == 0) return sound;
-        int saved = court.savedUnder(side);
+        int saved = court.trueUnder(side, SAVING);
         int good = court.goodAmong(sound, saved);
         if (what == 1) return good;
         int firm = court.firmAmong(sound, saved);
@@ -175,8 +178,8 @@ public final class TwoHeads {
 
     public int felled(int side, int act) {
         if (!isSide(side) || !isAct(act)) return BAD;
-        int sound = court.soundUnder(side);
-        int saved = court.savedUnder(side);
+        int sound = court.trueUnder(side, BINDING);
+        int saved = court.trueUnder(side, SAVING);
         return court.goodAmong(sound, saved) & ~court.goodAmong(sound & ~(1 << act), saved);
     }
 
@@ -652,7 +655,7 @@ public final class TwoHeads {
         }
     }
 
-    /** THE TAPE, and the reading of a TEXT from it, by a method for each part of speech. */
+    /** THE TAPE, and the reading of a TEXT from it: first its TOKENS, then a method for each part of speech. */
     private static final class Reader {
         // SIGNS are tokens by their own byte; these stay below all of them.
         private static final int END = 0, WRONG = 1, NUMBER = 2, NAME = 3;
@@ -663,9 +666,12 @@ public final class TwoHeads {
         Formula binds;
         Formula saved;
         private int at;
+        // One place more than THE TAPE has bytes: for the END.
+        private final int[] tokens = new int[TAPE + 1];
+        private final int[] places = new int[TAPE + 1];
+        private final int[] values = new int[TAPE + 1];
+        private int current;
         private int token;
-        private int tokenAt;
-        private int tokenValue;
         private int fault;
         private final int[] code = new int[TAPE];
         private int codeSize;
@@ -678,183 +684,83 @@ public final class TwoHeads {
 
         /** The place of the FAULT, or NONE, and then binds and saved are what was read. */
         int readTape() {
-            at = 0;
+            findTokens();
+            size = 0;
             fault = NONE;
-            nextToken();
+            current = 0;
+            token = tokens[0];
             binds = readPart(BINDS);
             saved = readPart(SAVED);
-            expect(END);
-            size = 0;
+            if (token != END) fail();
             return fault;
         }
 
-        private Formula readPart(int key) {
-            codeSize = 0;
-            expect(key);
-            readEither(0);
-            expect(';');
-            return fault == NONE ? new Formula(Arrays.copyOf(code, codeSize)) : null;
-        }
-
-        // The methods below carry how many brackets, nots and minus signs are open.
-
-        private void readEither(int open) {
-            readBoth(open);
-            for (int i = 0; i < TAPE && token == OR; i++) {
-                nextToken();
-                readBoth(open);
-                write(EITHER);
+        // A WRONG token is a FAULT wherever it stands, so what comes behind it does not matter.
+        private void findTokens() {
+            at = 0;
+            for (int i = 0; i <= TAPE; i++) {
+                skipBlanks();
+                places[i] = at;
+                tokens[i] = findToken(i);
+                if (tokens[i] == END || tokens[i] == WRONG) return;
             }
         }
 
-        private void readBoth(int open) {
-            readNot(open);
-            for (int i = 0; i < TAPE && token == AND; i++) {
-                nextToken();
-                readNot(open);
-                write(BOTH);
-            }
-        }
-
-        private void readNot(int open) {
-            if (token == NOT) {
-                if (opens(open)) {
-                    readNot(open + 1);
-                    write(DENY);
-                }
-                return;
-            }
-            readSum(open);
-            if (token == '<' || token == '=') {
-                int sign = token == '<' ? LESS : EQUAL;
-                nextToken();
-                readSum(open);
-                write(sign);
-            }
-        }
-
-        private void readSum(int open) {
-            readTerm(open);
-            for (int i = 0; i < TAPE && (token == '+' || token == '-'); i++) {
-                int sign = token == '+' ? PLUS : MINUS;
-                nextToken();
-                readTerm(open);
-                write(sign);
-            }
-        }
-
-        private void readTerm(int open) {
-            readOne(open);
-            for (int i = 0; i < TAPE && token == '*'; i++) {
-                nextToken();
-                readOne(open);
-                write(TIMES);
-            }
-        }
-
-        private void readOne(int open) {
-            if (token == NUMBER || token == NAME) {
-                write(tokenValue);
-                nextToken();
-            } else if (token == '-') {
-                if (opens(open)) {
-                    readOne(open + 1);
-                    write(NEGATE);
-                }
-            } else if (token == '(') {
-                if (opens(open)) {
-                    readEither(open + 1);
-                    expect(')');
-                }
-            } else {
-                fail();
-            }
-        }
-
-        private boolean opens(int open) {
-            if (open >= MOST_OPEN) {
-                fail();
-                return false;
-            }
-            nextToken();
-            return true;
-        }
-
-        private void expect(int wanted) {
-            if (token != wanted) {
-                fail();
-            } else if (wanted != END) {
-                nextToken();
-            }
-        }
-
-        // Behind a FAULT the token stays WRONG, which nothing takes: so the reading ends.
-        private void fail() {
-            if (fault == NONE) fault = tokenAt;
-            token = WRONG;
-        }
-
-        private void write(int sign) {
-            if (codeSize < code.length) code[codeSize++] = sign;
-        }
-
-        private void nextToken() {
+        private void skipBlanks() {
             while (at < size && (tape[at] == ' ' || tape[at] == '\n')) {
                 at++;
             }
-            tokenAt = at;
-            if (at >= size) {
-                token = END;
-            } else if (isLetter(tape[at])) {
-                takeWord();
-            } else if (isDigit(tape[at])) {
-                takeNumber();
-            } else {
-                token = isSign(tape[at]) ? tape[at] : WRONG;
-                at++;
-            }
         }
 
-        private void takeWord() {
+        private int findToken(int i) {
+            if (at >= size) return END;
+            if (isLetter(tape[at])) return findWord(i);
+            if (isDigit(tape[at])) return findNumber(i);
+            byte sign = tape[at++];
+            return isSign(sign) ? sign : WRONG;
+        }
+
+        private int findNumber(int i) {
+            int value = 0;
+            while (at < size && isDigit(tape[at])) {
+                value = value * 10 + (tape[at] - '0');
+                at++;
+            }
+            values[i] = value;
+            return at - places[i] <= 4 ? NUMBER : WRONG;
+        }
+
+        private int findWord(int i) {
             while (at < size && isLetter(tape[at])) {
                 at++;
             }
-            tokenValue = nameSpelt();
-            token = tokenValue < 0 ? NAME : keySpelt();
+            values[i] = nameFrom(places[i]);
+            return values[i] < 0 ? NAME : keyFrom(places[i]);
         }
 
-        private void takeNumber() {
-            tokenValue = 0;
-            while (at < size && isDigit(tape[at])) {
-                tokenValue = tokenValue * 10 + (tape[at] - '0');
-                at++;
-            }
-            token = at - tokenAt <= 4 ? NUMBER : WRONG;
-        }
-
-        private int nameSpelt() {
-            if (spells("kind")) return KIND_NAME;
-            if (spells("day")) return DAY_NAME;
-            if (spells("rank")) return RANK_NAME;
-            if (spells("same")) return SAME_NAME;
-            if (spells("hangs")) return HANGS_NAME;
-            if (spells("faith")) return FAITH_NAME;
+        private int nameFrom(int from) {
+            if (spells(from, "kind")) return KIND_NAME;
+            if (spells(from, "day")) return DAY_NAME;
+            if (spells(from, "rank")) return RANK_NAME;
+            if (spells(from, "same")) return SAME_NAME;
+            if (spells(from, "hangs")) return HANGS_NAME;
+            if (spells(from, "faith")) return FAITH_NAME;
             return 0;
         }
 
-        private int keySpelt() {
-            if (spells("binds")) return BINDS;
-            if (spells("saved")) return SAVED;
-            if (spells("or")) return OR;
-            if (spells("and")) return AND;
-            if (spells("not")) return NOT;
+        private int keyFrom(int from) {
+            if (spells(from, "binds")) return BINDS;
+            if (spells(from, "saved")) return SAVED;
+            if (spells(from, "or")) return OR;
+            if (spells(from, "and")) return AND;
+            if (spells(from, "not")) return NOT;
             return WRONG;
         }
 
-        private boolean spells(String word) {
-            if (at - tokenAt != word.length()) return false;
+        private boolean spells(int from, String word) {
+            if (at - from != word.length()) return false;
             for (int i = 0; i < word.length(); i++) {
-                if (tape[tokenAt + i] != word.charAt(i)) return false;
+                if (tape[from + i] != word.charAt(i)) return false;
             }
             return true;
         }
@@ -870,6 +776,122 @@ public final class TwoHeads {
         private static boolean isSign(byte b) {
             return b == '(' || b == ')' || b == ';' || b == '+' || b == '-'
                     || b == '*' || b == '<' || b == '=';
+        }
+
+        private Formula readPart(int key) {
+            codeSize = 0;
+            expect(key);
+            readEither(0);
+            expect(';');
+            return fault == NONE ? new Formula(Arrays.copyOf(code, codeSize)) : null;
+        }
+
+        // The methods below carry how many brackets, nots and minus signs are open.
+
+        private void readEither(int open) {
+            readBoth(open);
+            for (int i = 0; i < TAPE && token == OR; i++) {
+                advance();
+                readBoth(open);
+                write(EITHER);
+            }
+        }
+
+        private void readBoth(int open) {
+            readNot(open);
+            for (int i = 0; i < TAPE && token == AND; i++) {
+                advance();
+                readNot(open);
+                write(BOTH);
+            }
+        }
+
+        private void readNot(int open) {
+            if (token == NOT) {
+                if (mayOpen(open)) {
+                    readNot(open + 1);
+                    write(DENY);
+                }
+                return;
+            }
+            readSum(open);
+            if (token == '<' || token == '=') {
+                int sign = token == '<' ? LESS : EQUAL;
+                advance();
+                readSum(open);
+                write(sign);
+            }
+        }
+
+        private void readSum(int open) {
+            readTerm(open);
+            for (int i = 0; i < TAPE && (token == '+' || token == '-'); i++) {
+                int sign = token == '+' ? PLUS : MINUS;
+                advance();
+                readTerm(open);
+                write(sign);
+            }
+        }
+
+        private void readTerm(int open) {
+            readOne(open);
+            for (int i = 0; i < TAPE && token == '*'; i++) {
+                advance();
+                readOne(open);
+                write(TIMES);
+            }
+        }
+
+        private void readOne(int open) {
+            if (token == NUMBER || token == NAME) {
+                write(values[current]);
+                advance();
+            } else if (token == '-') {
+                if (mayOpen(open)) {
+                    readOne(open + 1);
+                    write(NEGATE);
+                }
+            } else if (token == '(') {
+                if (mayOpen(open)) {
+                    readEither(open + 1);
+                    expect(')');
+                }
+            } else {
+                fail();
+            }
+        }
+
+        /** Goes on behind what opens, or fails at it if too much is open. */
+        private boolean mayOpen(int open) {
+            if (open >= MOST_OPEN) {
+                fail();
+                return false;
+            }
+            advance();
+            return true;
+        }
+
+        private void expect(int wanted) {
+            if (token == wanted) {
+                advance();
+            } else {
+                fail();
+            }
+        }
+
+        private void advance() {
+            if (current < TAPE) current++;
+            token = tokens[current];
+        }
+
+        // Behind a FAULT the token stays WRONG, which nothing takes: so the reading ends.
+        private void fail() {
+            if (fault == NONE) fault = places[current];
+            token = WRONG;
+        }
+
+        private void write(int sign) {
+            if (codeSize < TAPE) code[codeSize++] = sign;
         }
     }
 
@@ -914,19 +936,11 @@ public final class TwoHeads {
             facts[KIND_NAME - SAME_NAME] = side == 2 || side == held ? 1 : 0;
             facts[KIND_NAME - HANGS_NAME] = Integer.bitCount(deeds.hangsOn[act]);
             facts[KIND_NAME - FAITH_NAME] = deeds.faith[act];
-            Formula formula = part == 0 ? binds[textOf[side]] : saved[textOf[side]];
+            Formula formula = part == BINDING ? binds[textOf[side]] : saved[textOf[side]];
             return formula == null ? 0 : formula.valueFor(facts, stack);
         }
 
-        int soundUnder(int side) {
-            return trueUnder(side, 0);
-        }
-
-        int savedUnder(int side) {
-            return trueUnder(side, 1);
-        }
-
-        private int trueUnder(int side, int part) {
+        int trueUnder(int side, int part) {
             int set = 0;
             for (int act = 0; act < deeds.size; act++) {
                 set |= valueOf(side, act, part) != 0 ? 1 << act : 0;
@@ -935,7 +949,7 @@ public final class TwoHeads {
         }
 
         int goodUnder(int side) {
-            return goodAmong(soundUnder(side), savedUnder(side));
+            return goodAmong(trueUnder(side, BINDING), trueUnder(side, SAVING));
         }
 
         // A round that is not the last takes one away (or adds one) at least: ACTS rounds are enough.
@@ -1020,8 +1034,8 @@ public final class TwoHeads {
 
         private boolean tellsApart(int act, int now, int then) {
             for (int side = 0; side < 2; side++) {
-                boolean is = valueIfHeld(side, act, 0, now) != 0;
-                boolean wouldBe = valueIfHeld(side, act, 0, then) != 0;
+                boolean is = valueIfHeld(side, act, BINDING, now) != 0;
+                boolean wouldBe = valueIfHeld(side, act, BINDING, then) != 0;
                 if (is != wouldBe) return true;
             }
             return false;

@@ -1088,10 +1088,11 @@ public final class TwoHeads {
             int best = NONE;
             int least = 0;
             int fewest = 0;
+            int oursAlready = Integer.bitCount(ours);
             for (int set = 0; set < 1 << size; set++) {
+                if ((set & ours) != 0) continue;
                 int bought = Integer.bitCount(set);
-                boolean enough = 2 * (bought + Integer.bitCount(ours)) > size;
-                if ((set & ours) != 0 || !enough) continue;
+                if (2 * (bought + oursAlready) <= size) continue;
                 int cost = sumOver(price, set);
                 boolean less = cost < least || cost == least && bought < fewest;
                 if ((best == NONE || less) && goTogether(clashes, set)) {
@@ -1166,13 +1167,13 @@ public final class TwoHeads {
         void plan(int from, int others) {
             size = Integer.bitCount(others);
             mostWon = -1;
-            goOn(from, others, 0, 0);
+            goOn(0, from, others, 0, 0);
         }
 
-        private void goOn(int from, int left, int day, int won) {
-            if (won + Integer.bitCount(left) <= mostWon) return;
-            int place = size - Integer.bitCount(left);
-            if (place >= size || size > ENVOYED) {
+        /** Goes on from a LAND on a DAY to those that are left, as the journey's LAND of that place. */
+        private void goOn(int place, int from, int left, int day, int won) {
+            if (won + mayBeWon(from, left, day) <= mostWon) return;
+            if (place >= size || place >= ENVOYED) {
                 keep(won);
                 return;
             }
@@ -1182,19 +1183,30 @@ public final class TwoHeads {
                 int rest = left & ~(1 << land);
                 int come = day + lands.ways[from][land];
                 if (lands.ways[from][land] == NO_WAY) {
-                    giveUp(rest, won);
+                    giveUp(place + 1, rest, won);
                 } else {
-                    goOn(land, rest, come + STAY, come <= lands.bounds[land] ? won + 1 : won);
+                    goOn(place + 1, land, rest, come + STAY, come <= lands.bounds[land] ? won + 1 : won);
                 }
             }
         }
 
-        private void giveUp(int rest, int won) {
-            int place = size - Integer.bitCount(rest);
+        // No way over other LANDS is shorter: what is too late at once stays too late.
+        private int mayBeWon(int from, int left, int day) {
+            int n = 0;
             for (int land = 0; land < LANDS; land++) {
-                if (has(rest, land) && place < ENVOYED) order[place++] = land;
+                int way = lands.ways[from][land];
+                if (has(left, land) && way != NO_WAY && day + way <= lands.bounds[land]) n++;
             }
-            if (won > mostWon) keep(won);
+            return n;
+        }
+
+        private void giveUp(int place, int rest, int won) {
+            if (won <= mostWon) return;
+            int next = place;
+            for (int land = 0; land < LANDS; land++) {
+                if (has(rest, land) && next < ENVOYED) order[next++] = land;
+            }
+            keep(won);
         }
 
         private void keep(int won) {

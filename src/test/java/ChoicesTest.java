@@ -28,6 +28,7 @@ public final class ChoicesTest {
         Check.due("bad ahead of full", x.elector(1000, 0), -2);
         Check.due("clash", x.clash(0, 9), 1);
         Check.due("they did", x.clash(9, 0), 0);
+        Check.due("they did", x.clash(0, 9), 0);
         Check.due("itself", x.clash(3, 3), -2);
         for (int b : new int[] {-1, 10, MIN, MAX}) {
             Check.due("bad clash", x.clash(b, 0), -2);
@@ -118,6 +119,19 @@ public final class ChoicesTest {
         Check.due("elsewhere", x.council(4, 40, 60, 100), 0x11);
         Check.due("the fewest before the most seats", x.council(0, 99, 2, 100), 0x1);
         Check.due("SIDE 0 needs its third too", x.council(3, 0, 3, 100), -1);
+        Check.due("999 is no wrong number", x.council(0, 999, 999, 9999), -1);
+        TwoHeads y = new TwoHeads();
+        for (int land = 0; land < 8; land++) {
+            y.seats(land, 99);
+            if (land > 0) y.road(0, land, 1);
+        }
+        y.turn(0, 0, 1);
+        y.turn(7, 0, 1);
+        Check.due("SIDE 1 falls short of a third", y.council(0, 1, 792, 0), -1);
+        y.turn(1, 0, 1);
+        Check.due("all eight", y.council(0, 1, 792, 0), 255);
+        Check.due("one more than all", y.council(0, 1, 793, 0), -1);
+        Check.due("LAND 0 may be of SIDE 1", y.council(0, 1, 100, 0), 5);
     }
 
     // 999 DAYS are as many as FAR says where there is no way: the words are taken as they stand.
@@ -145,6 +159,7 @@ public final class ChoicesTest {
         for (int[] b : bad) Check.due("bad worth", x.worth(b[0], b[1], b[2]), -1000);
         Check.due("against", x.against(2, 6), 1);
         Check.due("they didn't", x.against(6, 2), 0);
+        Check.due("they didn't", x.against(2, 6), 0);
         Check.due("itself", x.against(2, 2), -2);
         for (int b : new int[] {-1, 8, MIN, MAX}) {
             Check.due("bad against", x.against(b, 0), -2);

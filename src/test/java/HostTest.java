@@ -120,6 +120,9 @@ public final class HostTest {
         }
         Check.due("none", x.seatsRow(0, 2, 40, 0), 0);
         Check.due("none of any place", x.seatsRow(0, 2, -7, 0), 0);
+        x.cell(0, 0, 99);
+        Check.due("99 is one", x.seatsRow(0, 2, 0, 1), 1);
+        Check.due("99 is one", x.seats(0, 0), 99);
         x.cell(0, 0, 65536 + 5);
         Check.due("an int is not cut", x.seatsRow(0, 2, 0, 1), 0);
     }

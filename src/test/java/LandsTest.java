@@ -171,5 +171,7 @@ public final class LandsTest {
         Check.due("not sound and would be", x.changed(0, 0, 1), 1);
         x.rule(0, Check.text(x, "binds same + 1; saved same;"));
         Check.due("another value, but sound still", x.changed(0, 0, 1), 0);
+        x.rule(0, Check.text(x, "binds -same; saved same;"));
+        Check.due("what is below 0 is true", x.changed(0, 0, 1), 1);
     }
 }

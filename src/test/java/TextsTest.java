@@ -120,6 +120,38 @@ public final class TextsTest {
         faultAt("binds 1, saved 1;", 7);
         faultAt("? binds", 0);
         faultAt("same", 0);
+        faultAt("binds 1 saved 1;", 8);
+        faultAt("binds 1; or 1;", 9);
+        faultAt("binds samez; saved 1;", 6);
+        faultAt("binds 1; saved zz;", 15);
+        faultAt("(".repeat(160), 0);
+        faultAt(";".repeat(160), 0);
+        for (String word : new String[] {"kind", "day", "rank", "same", "hangs", "faith", "not", "or", "and"}) {
+            faultAt("binds x" + word.substring(1) + " 1; saved 1;", 6);
+            faultAt("binds " + word + "s 1; saved 1;", 6);
+            faultAt("binds " + word.substring(0, word.length() - 1) + "x 1; saved 1;", 6);
+            faultAt("binds a" + word + " 1; saved 1;", 6);
+        }
+        leftOvers();
+    }
+
+    /** What an earlier TEXT left on THE TAPE is gone. */
+    private static void leftOvers() {
+        TwoHeads x = new TwoHeads();
+        Check.due("digits", Check.text(x, "9".repeat(40)), -100);
+        Check.due("ends behind a digit", Check.text(x, "binds 1;saved 1"), -115);
+        Check.due("letters", Check.text(x, "e".repeat(40)), -100);
+        Check.due("ends behind a letter", Check.text(x, "binds 1;saved same"), -118);
+        Check.due("blanks", Check.text(x, " ".repeat(40)), -140);
+        Check.due("ends behind a blank", Check.text(x, "binds 1;saved 1 "), -116);
+        Check.due("a text after all", Check.text(x, "binds 1;saved 1;"), 1);
+        Check.due("its binds", Check.text(x, "binds 1+1+1;saved 2;"), 2);
+        x.person(0);
+        x.act(0, 0, 0, 0, 0);
+        x.rule(0, 1);
+        Check.due("texts are apart", x.says(0, 0, 0), 1);
+        x.rule(0, 2);
+        Check.due("texts are apart", x.says(0, 0, 0), 3);
     }
 
     private static void faultAt(String text, int place) {
@@ -213,6 +245,10 @@ public final class TextsTest {
         valueIs("0 or 0 or -7", 1);
         valueIs("5 and 7", 1);
         valueIs("5 and 0", 0);
+        valueIs("0 and 5", 0);
+        valueIs("-1 and -1", 1);
+        valueIs("-1 or 0", 1);
+        valueIs("not -1", 0);
         valueIs("1 or 1 and 0", 1);
         valueIs("(1 or 1) and 0", 0);
         valueIs("0 and 0 or 1", 1);

@@ -513,10 +513,12 @@ public final class TwoHeads {
             return turn == NONE ? 0 : turnSide[turn];
         }
 
+        // 999 DAYS are a time like another, but a FAR of 999 says that there is no way.
         int within(int land, int days) {
             int set = 0;
             for (int other = 0; other < LANDS; other++) {
-                set |= ways[other][land] <= days ? 1 << other : 0;
+                int way = ways[other][land];
+                set |= way != NO_WAY && way <= days ? 1 << other : 0;
             }
             return set;
         }

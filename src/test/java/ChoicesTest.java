@@ -134,12 +134,26 @@ public final class ChoicesTest {
         Check.due("LAND 0 may be of SIDE 1", y.council(0, 1, 100, 0), 5);
     }
 
-    // 999 DAYS are as many as FAR says where there is no way: the words are taken as they stand.
+    // FAR is 999 where there is no way: that is no number of DAYS, so 999 DAYS are not enough either.
     private static void noWayToTheCouncil() {
         TwoHeads x = new TwoHeads();
         x.seats(3, 9);
-        Check.due("not by 998", x.council(0, 998, 1, 0), -1);
-        Check.due("by 999", x.council(0, 999, 1, 0), 8);
+        Check.due("no way, not by 998", x.council(0, 998, 1, 0), -1);
+        Check.due("no way, not by 999", x.council(0, 999, 1, 0), -1);
+        Check.due("its own SEATS need no way", x.council(3, 999, 1, 0), 8);
+        x.seats(0, 1);
+        Check.due("one without a way is not in the set", x.council(0, 999, 1, 0), 1);
+        Check.due("nor for the sum", x.council(0, 999, 2, 0), -1);
+        for (int land = 0; land < 7; land++) x.road(land, land + 1, 99);
+        x.seats(7, 50);
+        Check.due("the longest way there is", x.council(0, 693, 50, 0), -1);
+        x.turn(7, 0, 1);
+        x.seats(0, 16);
+        Check.due("the longest way there is", x.council(0, 693, 50, 0), 0x81);
+        Check.due("a day too few", x.council(0, 692, 50, 0), -1);
+        Check.due("by 999", x.council(0, 999, 50, 0), 0x81);
+        x.road(6, 7, 999);
+        Check.due("the way is gone", x.council(0, 999, 50, 0), -1);
     }
 
     private static void clauses() {

@@ -534,7 +534,7 @@ final class Oracle {
             boolean may = true;
             for (int l = 0; l < 8; l++) {
                 if ((set >> l & 1) == 0) continue;
-                if (far(l, land) > days) may = false;
+                if (far(l, land) > days || far(l, land) == 999) may = false;
                 come[side(l, day)] += seats[l];
             }
             int all = come[0] + come[1];

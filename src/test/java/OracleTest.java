@@ -111,7 +111,7 @@ public final class OracleTest {
             case "act2": return random.nextInt(72);
             case "road2": return random.nextInt(6) == 0 ? 999 : 1 + random.nextInt(30);
             case "pay2": return 1 + random.nextInt(9999);
-            case "council1": return random.nextInt(80);
+            case "council1": return random.nextInt(5) == 0 ? 999 : random.nextInt(80);
             case "council2": return 1 + random.nextInt(60);
             case "worth2": return random.nextInt(21) - 11;
             case "bound1": return random.nextInt(150);

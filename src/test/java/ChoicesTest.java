@@ -5,8 +5,10 @@ public final class ChoicesTest {
     public static void main(String[] args) {
         electors();
         buying();
+        moreThanHalf();
         seats();
         councils();
+        thirds();
         noWayToTheCouncil();
         clauses();
         settling();
@@ -29,6 +31,8 @@ public final class ChoicesTest {
         Check.due("clash", x.clash(0, 9), 1);
         Check.due("they did", x.clash(9, 0), 0);
         Check.due("they did", x.clash(0, 9), 0);
+        Check.due("with another one, too", x.clash(5, 9), 1);
+        Check.due("they still did", x.clash(9, 0), 0);
         Check.due("itself", x.clash(3, 3), -2);
         for (int b : new int[] {-1, 10, MIN, MAX}) {
             Check.due("bad clash", x.clash(b, 0), -2);
@@ -76,6 +80,26 @@ public final class ChoicesTest {
         z.elector(0, 0);
         Check.due("cost before number", z.bought(0), 0x42);
         Check.due("cost before number", z.bought(1), 1);
+    }
+
+    /** Of n ELECTORS it takes n / 2 (cut) and one more, those that are for us already with them. */
+    private static void moreThanHalf() {
+        for (int n = 1; n <= 10; n++) {
+            int needed = n / 2 + 1;
+            for (int ours = 0; ours <= n; ours++) {
+                TwoHeads x = new TwoHeads();
+                for (int e = 0; e < n; e++) x.elector(10, e < ours ? 1 : 0);
+                int bought = Math.max(0, needed - ours);
+                Check.due(needed + " of " + n + ", " + ours + " ours", x.bought(1), 10 * bought);
+                Check.due("the least set", x.bought(0), ((1 << bought) - 1) << ours);
+            }
+            TwoHeads x = new TwoHeads();
+            for (int e = 0; e < n; e++) x.elector(0, 0);
+            Check.due("that costs nothing", x.bought(1), 0);
+            Check.due("no more than needed", x.bought(0), (1 << needed) - 1);
+            for (int a = 0; a < n; a++) for (int b = 0; b < a; b++) x.clash(a, b);
+            Check.due("all clash: one alone can be bought", x.bought(0), n == 1 ? 1 : -1);
+        }
     }
 
     private static void seats() {
@@ -134,6 +158,30 @@ public final class ChoicesTest {
         Check.due("LAND 0 may be of SIDE 1", y.council(0, 1, 100, 0), 5);
     }
 
+    /** A third (cut) of both SIDES and the whole of all SEATS: each number just reached, and missed by one. */
+    private static void thirds() {
+        for (int wanted = 1; wanted <= 297; wanted++) {
+            TwoHeads x = new TwoHeads();
+            x.turn(7, 0, 1);
+            x.road(6, 7, 1);
+            x.road(5, 6, 1);
+            int third = wanted / 3;
+            int left = wanted - third;
+            x.seats(7, third);
+            x.seats(6, left / 2);
+            x.seats(5, left - left / 2);
+            Check.holds(wanted + " just reached", x.council(7, 2, wanted, 0) > 0);
+            x.seats(7, Math.max(0, third - 1));
+            x.seats(4, 99);
+            x.road(4, 7, 1);
+            if (third > 0) Check.due("a third of " + wanted + ", missed", x.council(7, 2, wanted, 0), -1);
+            x.seats(7, third);
+            x.seats(4, 0);
+            x.seats(5, left - left / 2 - 1);
+            Check.due(wanted + " of all, missed by one", x.council(7, 2, wanted, 0), -1);
+        }
+    }
+
     // FAR is 999 where there is no way: that is no number of DAYS, so 999 DAYS are not enough either.
     private static void noWayToTheCouncil() {
         TwoHeads x = new TwoHeads();
@@ -174,6 +222,8 @@ public final class ChoicesTest {
         Check.due("against", x.against(2, 6), 1);
         Check.due("they didn't", x.against(6, 2), 0);
         Check.due("they didn't", x.against(2, 6), 0);
+        Check.due("with another one, too", x.against(4, 6), 1);
+        Check.due("they still didn't", x.against(6, 2), 0);
         Check.due("itself", x.against(2, 2), -2);
         for (int b : new int[] {-1, 8, MIN, MAX}) {
             Check.due("bad against", x.against(b, 0), -2);

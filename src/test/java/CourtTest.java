@@ -7,6 +7,7 @@ public final class CourtTest {
         rings();
         savedOnes();
         felledOnes();
+        wrappedOnes();
         lasting();
         namings();
         quarrelling();
@@ -116,6 +117,22 @@ public final class CourtTest {
         Check.due("felled under a side where none is sound", x.felled(1, 4), 0);
     }
 
+    /** What wraps to 0 is not true, what wraps to below 0 is. */
+    private static void wrappedOnes() {
+        TwoHeads x = withActs(2);
+        x.act(0, 1, 0, 10, 0);
+        x.hang(0, 2);
+        x.rule(0, Check.text(x, "binds 8192*8192*64;saved 1;"));
+        acts(x, 0, 0, 0, 0);
+        x.rule(0, Check.text(x, "binds 8192*8192*32;saved 0;"));
+        acts(x, 0, 7, 7, 7);
+        Check.due("one is felled by what it hangs on", x.felled(0, 2), 5);
+        x.rule(0, Check.text(x, "binds same;saved 8192*8192*64;"));
+        acts(x, 0, 3, 2, 2);
+        x.rule(0, Check.text(x, "binds same;saved 8192*8192*32;"));
+        acts(x, 0, 3, 3, 3);
+    }
+
     private static void lasting() {
         TwoHeads x = new TwoHeads();
         x.person(0);
@@ -194,10 +211,20 @@ public final class CourtTest {
         x.road(3, 5, 60);
         x.road(5, 4, 60);
         Check.due("beyond the last day", x.known(0, 4), 10119);
+        int[] others = {0, 1, 2, 6, 7};
+        for (int i = 0; i < 5; i++) x.road(i == 0 ? 4 : others[i - 1], others[i], 99);
+        x.road(3, 5, 99);
+        x.road(5, 4, 99);
+        Check.due("the latest of all", x.known(0, 7), 9999 + 693);
+        x.road(6, 7, 999);
+        Check.due("never again", x.known(0, 7), -1);
         Check.due("bad", x.known(0, 8), -2);
         Check.due("bad", x.known(0, -1), -2);
         Check.due("bad", x.known(1, 0), -2);
         Check.due("bad", x.known(-1, 0), -2);
+        x.act(0, 0, 0, 0, 0);
+        Check.due("the earliest of all", x.known(1, 3), 0);
+        Check.due("a way on", x.known(1, 5), 99);
     }
 
     private static void crossing() {
@@ -265,8 +292,28 @@ public final class CourtTest {
         Check.due("owed to 1 under 2", x.owed(2, 1), 2000);
         Check.due("owed to 2 under 2", x.owed(2, 2), 10);
         Check.due("all under 2", x.owed(2, -1), 2010);
+        endsOfANaming();
         for (int bad : new int[] {-1, 3, MIN, MAX}) Check.due("no such side", x.owed(bad, 0), TwoHeads.NO);
         for (int bad : new int[] {-2, 3, 12, MIN, MAX}) Check.due("no such person", x.owed(0, bad), TwoHeads.NO);
+    }
+
+    /** A rent is WRONG from the first DAY of a NAMING to the last that it LASTS. */
+    private static void endsOfANaming() {
+        TwoHeads x = new TwoHeads();
+        x.person(0);
+        x.person(0);
+        x.act(1, 0, 13, 1, 0);
+        x.act(1, 0, 1, 0, 0);
+        x.pay(1, 0, 1, 0);
+        Check.due("a day ahead of it", x.owed(0, -1), 0);
+        x.pay(1, 0, 10, 1);
+        Check.due("the first day", x.owed(0, -1), 10);
+        x.pay(0, 0, 100, 9998);
+        Check.due("the last day", x.owed(0, -1), 110);
+        x.pay(0, 0, 1000, 9999);
+        Check.due("a day behind it nobody is by right", x.owed(0, -1), 110);
+        x.pay(1, 0, 2000, 9999);
+        Check.due("a day later told, a day longer", x.owed(0, 1), 2110);
     }
 
     private static void wrongNumbers() {

@@ -151,6 +151,10 @@ public final class LandsTest {
         Check.due("of like days the supposed one is last", x.changed(0, 30, 1), 0x18);
         x.turn(0, 20, 1);
         Check.due("to 0 in between", x.changed(0, 20, 0), 0x4);
+        Check.due("from behind the last turn on", x.changed(0, 31, 1), 0x10);
+        Check.due("on the day of an act", x.changed(0, 40, 1), 0x10);
+        Check.due("a day behind it", x.changed(0, 41, 1), 0);
+        Check.due("from the last day of all on", x.changed(0, 9999, 1), 0);
         Check.due("it isn't done", x.side(0, 20), 1);
         Check.due("it isn't done", x.count(2), 2);
         Check.due("nobody of it", x.changed(7, 0, 1), 0);

@@ -4,12 +4,16 @@ public final class TextsTest {
 
     public static void main(String[] args) {
         feeding();
+        fedByAnyNumber();
         fullTape();
+        lastPlaces();
         numbering();
         faults();
+        everyByte();
         depth();
         ruling();
         values();
+        wrapping();
         facts();
         saying();
         Check.end();
@@ -33,6 +37,30 @@ public final class TextsTest {
         Check.due("empty then", x.count(7), 0);
     }
 
+    /** A TEXT by 1 .. 8 bytes a call, all bytes above them being such as no TEXT has. */
+    private static void fedByAnyNumber() {
+        String text = "binds 7;saved 8;";
+        for (int n = 1; n <= 8; n++) {
+            TwoHeads x = new TwoHeads();
+            for (int from = 0; from < text.length(); from += n) {
+                long bytes = -1;
+                int now = Math.min(n, text.length() - from);
+                for (int k = 0; k < now; k++) bytes ^= (long) (text.charAt(from + k) ^ 255) << 8 * k;
+                Check.due("by " + n, x.feed(now, bytes), from + now);
+            }
+            Check.due("a TEXT that came by " + n, x.text(), 1);
+        }
+        TwoHeads y = new TwoHeads();
+        Check.due("the highest byte of all", y.feed(8, 0xE96F6F6F6F6F6F20L), 8);
+        Check.due("no word", y.text(), -101);
+        Check.due("the highest byte of all", y.feed(8, 0xE920202020202020L), 8);
+        Check.due("it begins no TOKEN", y.text(), -107);
+        Check.due("255", y.feed(8, -1), 8);
+        Check.due("it begins no TOKEN", y.text(), -100);
+        Check.due("0", y.feed(8, 0), 8);
+        Check.due("nor does 0", y.text(), -100);
+    }
+
     private static void fullTape() {
         TwoHeads x = new TwoHeads();
         for (int i = 1; i <= 19; i++) Check.due("blanks", x.feed(8, 0x2020202020202020L), 8 * i);
@@ -52,6 +80,22 @@ public final class TextsTest {
         x.person(0);
         x.act(0, 0, 0, 0, 0);
         Check.due("all of it counts", x.says(0, 0, 0), 73);
+    }
+
+    private static void lastPlaces() {
+        faultAt(" ".repeat(159) + "x", 159);
+        faultAt(" ".repeat(159) + "?", 159);
+        faultAt(" ".repeat(159) + "1", 159);
+        faultAt(" ".repeat(155) + "12345", 155);
+        faultAt(" ".repeat(155) + "binds", 160);
+        faultAt(" ".repeat(156) + "bind", 156);
+        faultAt("binds 1;saved 1;" + " ".repeat(143) + "1", 159);
+        faultAt("binds 1;saved 1" + " ".repeat(145), 160);
+        faultAt("binds 1;saved 1" + " ".repeat(144) + "x", 159);
+        reads("binds 1;saved 1" + " ".repeat(144) + ";");
+        reads("binds 1;saved 1;" + " ".repeat(144));
+        reads(" ".repeat(144) + "binds 1;saved 1;");
+        reads("binds" + "\n".repeat(144) + " 1;saved 1;");
     }
 
     private static void numbering() {
@@ -135,6 +179,28 @@ public final class TextsTest {
         leftOvers();
     }
 
+    /** Each of the 256 bytes where just a few of them may stand. */
+    private static void everyByte() {
+        for (int b = 0; b < 256; b++) {
+            String s = String.valueOf((char) b);
+            boolean blank = b == 32 || b == 10;
+            boolean digit = b >= 48 && b <= 57;
+            boolean letter = b >= 97 && b <= 122;
+            boolean ends = ";+-*<=".indexOf(b) >= 0;
+            readsOrFaultAt(s + "binds 1;saved 1;", blank, 0);
+            readsOrFaultAt("binds 1;saved 1;" + s, blank, 16);
+            readsOrFaultAt("binds 1" + s + ";saved 1;", blank || digit, ends ? 8 : 7);
+            readsOrFaultAt("binds same" + s + ";saved 1;", blank, letter ? 6 : ends ? 11 : 10);
+            readsOrFaultAt("binds sa" + s + "me;saved 1;", false, 6);
+            readsOrFaultAt("binds 9999" + s + ";saved 1;", blank, digit ? 6 : ends ? 11 : 10);
+        }
+    }
+
+    private static void readsOrFaultAt(String text, boolean may, int place) {
+        if (may) reads(text);
+        else faultAt(text, place);
+    }
+
     /** What an earlier TEXT left on THE TAPE is gone. */
     private static void leftOvers() {
         TwoHeads x = new TwoHeads();
@@ -169,6 +235,12 @@ public final class TextsTest {
         faultAt("binds not not not not not not 1; saved 1;", 26);
         reads("binds -----1; saved -----1;");
         faultAt("binds ------1; saved 1;", 11);
+        faultAt("binds 1;saved ------1;", 19);
+        faultAt("binds 1;saved ((((((1))))));", 19);
+        faultAt("binds 1;saved not not not not not not 1;", 34);
+        faultAt("binds -----1+------1; saved 1;", 18);
+        faultAt("binds (((((1)))))*((((((1)))))); saved 1;", 23);
+        reads("binds -----1+-----1*-----1<-----1 and -----1; saved (((((1)))));");
         reads("binds not (-(-1)); saved 1;");
         faultAt("binds not (-(-(1))); saved 1;", 14);
         faultAt("binds not (-(-not 1)); saved 1;", 14);
@@ -269,6 +341,25 @@ public final class TextsTest {
         valueIs("8192*8192*64", 0);
         valueIs("1or 1and 1<1+1*(1or 1and 1<1+1*(1or 1and 1<1+1*(1or 1and 1<1+1*(1or 1and 1<1+1*(0or 0and 0<0+0*7)))))", 1);
         valueIs("0or 1and 2<1+1*(0or 1and 2<1+1*(0or 1and 2<1+1*(0or 1and 2<1+1*(0or 1and 2<1+1*(0or 1and 2<0+3*1)))))", 0);
+    }
+
+    private static void wrapping() {
+        valueIs("8192*8192*32-1+1", MIN);
+        valueIs("8192*8192*32+8192*8192*32", 0);
+        valueIs("8192*8192*32+8192*8192*32-1", -1);
+        valueIs("0-8192*8192*32", MIN);
+        valueIs("-1-8192*8192*32", MAX);
+        valueIs("-(8192*8192*32-1)-1", MIN);
+        valueIs("-(8192*8192*32-1)-2", MAX);
+        valueIs("8192*8192*32*-1", MIN);
+        valueIs("9999*9999*9999*9999*9999", (int) (9999L * 9999 * 9999 * 9999 * 9999));
+        valueIs("8192*8192*32-1 < 8192*8192*32", 0);
+        valueIs("8192*8192*32 = -(8192*8192*32)", 1);
+        valueIs("8192*8192*64 = 0", 1);
+        valueIs("not 8192*8192*64", 1);
+        valueIs("8192*8192*64 or 8192*8192*64", 0);
+        valueIs("8192*8192*64+1 and 8192*8192*32", 1);
+        valueIs("not 8192*8192*32", 0);
     }
 
     private static void facts() {
